@@ -453,25 +453,21 @@ public final class LinePool {
         int passTicks(int n) {
             int before = log.total(Log.DONE);
             for (int i = 0; i < n; i++) {
-                passTick();
+                now++;
+                breakLines();
+                advanceLines();
+                failBroken();
+                doWork();
+                finishWork();
+                endLeaks();
+                letCome();
+                giveUp();
+                handOut();
+                closeRested();
+                closeSurplus();
+                openWanted();
             }
             return log.total(Log.DONE) - before;
-        }
-
-        private void passTick() {
-            now++;
-            breakLines();
-            advanceLines();
-            failBroken();
-            doWork();
-            finishWork();
-            endLeaks();
-            letCome();
-            giveUp();
-            handOut();
-            closeRested();
-            closeSurplus();
-            openWanted();
         }
 
         private void breakLines() {
