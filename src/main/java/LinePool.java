@@ -824,7 +824,6 @@ public final class LinePool {
 
         MeanWait(Settings settings) {
             this.settings = settings;
-            below = 1;
         }
 
         /** With at most 8 callers, rates of at most 9 and speeds of at most 9 all sums stay under 2^57. */
@@ -1011,17 +1010,15 @@ public final class LinePool {
 
         private void visit(int state, int lines) {
             int taken = 0;
-            int gone = 0;
             for (int i = 0; i < many; i++) {
-                if (has[i] == takes[i]) {
-                    gone++;
-                } else {
+                if (has[i] < takes[i]) {
                     taken += has[i];
                 }
             }
             if (taken < lines) {
                 markMoves(state);
-            } else if (gone < many) {
+            } else {
+                // whoever has one of these lines is not gone, so that this is never the end of all
                 stuck++;
             }
         }

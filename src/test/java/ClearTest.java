@@ -32,7 +32,43 @@ public final class ClearTest {
         }
         check.due("speeds are kept, above", x.mean(2, 1, 1, 0), 1);
         check.due("speeds are kept, below", x.mean(2, 1, 1, 1), 20);
+        everyLineAndBreak(check);
+        callerAsNew(check);
         check.end();
+    }
+
+    private static void everyLineAndBreak(Check check) {
+        LinePool x = new LinePool();
+        x.set(0, 12);
+        x.set(1, 0);
+        x.set(5, 12);
+        for (int s = 0; s < 12; s++) {
+            x.broken(2, s);
+        }
+        x.run(2);
+        for (int s = 0; s < 12; s++) {
+            check.slot(x, s, 2, 1, -1, 0, 1);
+        }
+        x.clear();
+        for (int s = 0; s < 12; s++) {
+            check.slot(x, s, 0, 0, -1, 0, 0);
+        }
+        x.run(2);
+        for (int s = 0; s < 12; s++) {
+            check.slot(x, s, 2, 0, -1, 0, 1);
+        }
+    }
+
+    private static void callerAsNew(Check check) {
+        LinePool x = new LinePool();
+        x.caller(2, 1, 9, 10, 1);
+        x.run(5);
+        check.told(x, 0, 1, 10, 1, 4, 2, 1);
+        x.clear();
+        x.caller(0, 3, 9, 20, 1);
+        check.told(x, 0, 0, 20, 0, 0, 0, 3);
+        check.due("run(6)", x.run(6), 1);
+        check.due("waits", x.count(15), 1);
     }
 
     private static void settle(LinePool x) {

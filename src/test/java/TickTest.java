@@ -428,6 +428,20 @@ public final class TickTest {
         check.due("lines", y.count(4), 3);
         check.due("lent", y.count(6), 3);
         check.latestEvents(y, row(1, 2, 2, 2), row(7, 3, -1, 3));
+
+        // from the very last slot to the very first
+        LinePool z = pool(12, -1, 12);
+        z.run(1);
+        z.set(0, 11);
+        z.run(1);
+        check.latestEvents(z, row(7, 2, -1, 11));
+        for (int i = 0; i < 11; i++) {
+            z.caller(0, 0, 9, i == 0 ? 10 : 1000, 3);
+        }
+        z.set(0, 10);
+        z.run(2);
+        check.latestEvents(z, row(1, 3, 10, 10), row(2, 4, 0, -1), row(7, 4, -1, 0));
+        check.due("lines", z.count(4), 10);
     }
 
     private static void linesWanted(Check check) {
@@ -461,6 +475,22 @@ public final class TickTest {
         y.caller(0, 0, 99, 1000, 3);
         y.run(1);
         check.due("lines", y.count(4), 2);
+
+        // a line that is tried is in use, too
+        LinePool t = pool(12, 5, 0);
+        t.caller(0, 0, 99, 1000, 1);
+        t.caller(0, 0, 99, 1000, 3);
+        t.run(3);
+        check.slot(t, 0, 3, 0, 0, 4, 0);
+        check.due("lines", t.count(4), 2);
+
+        // one tick to open is not none
+        LinePool o = pool(1, -1, 1);
+        o.set(1, 1);
+        o.run(1);
+        check.slot(o, 0, 1, 0, -1, 1, 0);
+        o.run(1);
+        check.slot(o, 0, 2, 0, -1, 0, 2);
 
         // more are kept warm than the size allows: the size holds
         LinePool z = pool(3, -1, 12);
