@@ -4,8 +4,8 @@ import java.util.List;
 import java.util.TreeMap;
 
 /**
- * The pool once more, written from the document alone and in its words, with lists and maps and none
- * of the class's ways: each line knows its own state, a slot without a line has no entry.
+ * The pool once more, in the document's words, with lists and maps and none of the class's ways. It is
+ * by the same hand as the class and came after it: it finds slips, not a misreading that both share.
  */
 final class SlowPool {
     enum At { OPENING, IDLE, TRYING, LENT }
