@@ -1,13 +1,26 @@
 import java.util.NoSuchElementException;
+import java.util.function.Consumer;
+import java.util.function.ToLongFunction;
 
 /** Counts and prints the answers of one test that are not as due. */
 final class Check {
+    /** What a call counts as that throws a NoSuchElementException. */
+    static final long THROWS = Long.MIN_VALUE;
+
     private final String name;
     private int checks;
     private int wrong;
 
     Check(String name) {
         this.name = name;
+    }
+
+    int checks() {
+        return checks;
+    }
+
+    int wrong() {
+        return wrong;
     }
 
     void due(String what, long got, long want) {
@@ -22,14 +35,40 @@ final class Check {
         due(what, got ? 1 : 0, want ? 1 : 0);
     }
 
-    void toldThrows(LinePool x, int c, int what) {
-        boolean thrown = false;
-        try {
-            x.told(c, what);
-        } catch (NoSuchElementException e) {
-            thrown = true;
+    /** Whether nothing that can be seen tells the two apart. */
+    void same(String what, Consumer<LinePool> calls, Consumer<LinePool> others) {
+        String[] seen = Seen.behind(calls);
+        String[] due = Seen.behind(others);
+        for (int i = 0; i < due.length; i++) {
+            boolean same = seen[i].equals(due[i]);
+            due(what + ", and the same " + due[i].substring(0, due[i].indexOf(':')), same, true);
+            if (!same) {
+                System.out.println("seen: " + seen[i] + "\ndue:  " + due[i]);
+            }
         }
-        due("told(" + c + ", " + what + ") throws", thrown, true);
+    }
+
+    /** A call that is refused behind these calls: it answers so, and changes nothing. */
+    void refused(String call, Consumer<LinePool> before, ToLongFunction<LinePool> asked, long answer) {
+        LinePool x = new LinePool();
+        before.accept(x);
+        due(call, answer(asked, x), answer);
+        same(call, y -> {
+            before.accept(y);
+            answer(asked, y);
+        }, before);
+    }
+
+    private static long answer(ToLongFunction<LinePool> asked, LinePool x) {
+        try {
+            return asked.applyAsLong(x);
+        } catch (NoSuchElementException e) {
+            return THROWS;
+        }
+    }
+
+    void toldThrows(LinePool x, int c, int what) {
+        due("told(" + c + ", " + what + ")", answer(y -> y.told(c, what), x), THROWS);
     }
 
     /** The latest events, oldest of them first; each row is number, tick, caller, slot. */
@@ -49,6 +88,10 @@ final class Check {
         due("event behind the first", x.event(rows.length, 0), LinePool.NONE);
     }
 
+    void count(LinePool x, int what, long want) {
+        due("count(" + what + ") at tick " + x.count(0), x.count(what), want);
+    }
+
     /** A slot's state, whether broken, caller, ticks to go, since. */
     void slot(LinePool x, int s, int... wants) {
         for (int what = 0; what < wants.length; what++) {
@@ -56,7 +99,7 @@ final class Check {
         }
     }
 
-    /** A caller's state, work left, lines, since when waiting. */
+    /** A caller's state, work left, lines, since when waiting, kind, rank. */
     void told(LinePool x, int c, int... wants) {
         for (int what = 0; what < wants.length; what++) {
             due("told(" + c + ", " + what + ") at tick " + x.count(0), x.told(c, what), wants[what]);
