@@ -7,8 +7,10 @@ import java.util.Random;
  * ranges let through; whatever they do not must be refused, and nothing else may be thrown.
  */
 public final class EdgePlayTest {
-    private static final int PLAYS = 500;
-    private static final int CALLS = 500;
+    private static final int PLAYS = 600;
+    private static final int CALLS = 512;
+    /** The most that one turn makes. */
+    private static final int CALLS_OF_TURN = 6;
     private static final int[] LEAST = {1, 0, -1, 1, 1, 0};
     private static final int[] MOST = {12, 20, 20, 1000, 1000, 12};
 
@@ -17,6 +19,7 @@ public final class EdgePlayTest {
     private LinePool x;
     private SlowPool y;
     private int crowd;
+    private int left;
 
     private EdgePlayTest() {
     }
@@ -27,7 +30,8 @@ public final class EdgePlayTest {
             test.x = new LinePool();
             test.y = new SlowPool();
             test.crowd = 0;
-            for (int j = 0; j < CALLS; j++) {
+            test.left = CALLS;
+            while (test.left >= CALLS_OF_TURN) {
                 test.call();
             }
         }
@@ -55,6 +59,7 @@ public final class EdgePlayTest {
     }
 
     private void call() {
+        left--;
         switch (chance.nextInt(22)) {
             case 0: set(); break;
             case 1: speed(); break;
@@ -155,6 +160,7 @@ public final class EdgePlayTest {
     }
 
     private void counted(int n, int r, int c, int what) {
+        left--;
         boolean taken = in(n, 1, 8) && in(r, 1, 9) && in(c, 1, 8);
         String of = n + ", " + r + ", " + c;
         check.due("mean(" + of + ", " + what + ") is one", x.mean(n, r, c, what) >= 0, taken && in(what, 0, 1));
@@ -162,6 +168,7 @@ public final class EdgePlayTest {
     }
 
     private void crowd() {
+        left -= CALLS_OF_TURN - 1;
         if (chance.nextInt(10) == 0) {
             check.due("scatter()", x.scatter(), crowd);
             crowd = 0;

@@ -114,8 +114,8 @@ public final class RunTest {
         ends.caller(0, 2, 9, 100, 4);
         ends.broken(4, 2);
         ends.run(4);
-        check.latestEvents(ends, row(3, 4, 2, -1), row(7, 4, -1, 2), row(2, 4, 1, -1), row(4, 4, 0, -1), row(0, 4, 4, -1),
-            row(5, 4, 3, -1), row(1, 4, 4, 0), row(6, 4, -1, 2));
+        check.latestEvents(ends, row(3, 4, 2, -1), row(7, 4, -1, 2), row(2, 4, 1, -1), row(4, 4, 0, -1),
+            row(0, 4, 4, -1), row(5, 4, 3, -1), row(1, 4, 4, 0), row(6, 4, -1, 2));
         // 6, 7: a line that has rested is lent, and so not gone
         LinePool rested = Plays.quick(1, -1, 1);
         rested.set(4, 3);

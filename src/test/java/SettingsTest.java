@@ -24,8 +24,8 @@ public final class SettingsTest {
 
         all.hold(SPEED, "SPEED of k (1 .. 12) becomes v (1 .. 100): true; false for others.", SettingsTest::speedEdges);
         all.hold(SPEED, "told for 1 .. 12 (1 .. 100, at first 10 each)", SettingsTest::speedsOfEach);
-        all.hold(SPEED, "SPEED of k at work (k 1 .. 60): told for 1 .. 12 (1 .. 100, at first 10 each), for more that of 12.",
-            SettingsTest::moreThanTwelve);
+        all.hold(SPEED, "SPEED of k at work (k 1 .. 60): told for 1 .. 12 (1 .. 100, at first 10 each), "
+            + "for more that of 12.", SettingsTest::moreThanTwelve);
         all.end();
     }
 

@@ -9,7 +9,8 @@ public final class TickLinesTest {
         Sentences all = new Sentences("TickLinesTest");
         all.hold(RUN, "BREAKS of this TICK: a LINE in this SLOT (if there is one) is BROKEN.", TickLinesTest::breaks);
         all.hold(RUN, "a LINE in this SLOT (if there is one) is BROKEN.", TickLinesTest::breaksWithoutLine);
-        all.hold(RUN, "one that is OPENING, IDLE, TRYING or LENT, and perhaps BROKEN", TickLinesTest::breaksInEachState);
+        all.hold(RUN, "one that is OPENING, IDLE, TRYING or LENT, and perhaps BROKEN",
+            TickLinesTest::breaksInEachState);
 
         all.hold(RUN, "2 SLOT by SLOT:", TickLinesTest::slotBySlot);
         all.hold(RUN, "OPENING: one TICK less to go; with 0 it is IDLE since this TICK.", TickLinesTest::opening);
@@ -575,7 +576,9 @@ public final class TickLinesTest {
     }
 
     private static void fewerThanWarm(Check check) {
-        int[][] sizeWarmLines = {{4, 0, 0}, {4, 1, 1}, {4, 3, 3}, {4, 4, 4}, {4, 5, 4}, {1, 12, 1}, {12, 12, 12}, {12, 11, 11}};
+        int[][] sizeWarmLines = {
+            {4, 0, 0}, {4, 1, 1}, {4, 3, 3}, {4, 4, 4}, {4, 5, 4}, {1, 12, 1}, {12, 12, 12}, {12, 11, 11},
+        };
         for (int[] row : sizeWarmLines) {
             LinePool x = Plays.quick(row[0], -1, row[1]);
             x.run(1);
