@@ -74,6 +74,8 @@ public final class LinePool {
         return pool.eventFigure(i, what);
     }
 
+    // ---- counts
+
     public long mean(int n, int r, int c, int what) {
         if (!countable(n, r, c) || !within(what, 0, 1)) {
             return NONE;
