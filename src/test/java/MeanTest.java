@@ -30,6 +30,8 @@ public final class MeanTest {
         all.hold(MEAN, "k is the lesser of c and those in the pool", MeanTest::lesserOfBoth);
         all.hold(MEAN, "w(n) the product, over i from 0 to n - 1, of (N - i) * r, and over i from n + 1 to N of "
             + "k * SPEED(k), with k the lesser of c and i.", MeanTest::products);
+        all.hold(MEAN, "In the long run the share of the time in which n are in the pool is as w(n)",
+            MeanTest::longRun);
         all.hold(MEAN, "those of n above c", MeanTest::aboveSize);
         all.hold(MEAN, "as a fraction in lowest terms", MeanTest::lowestTerms);
         all.hold(MEAN, "what 0: what stands above, 1: below.", MeanTest::aboveAndBelow);
@@ -171,6 +173,33 @@ public final class MeanTest {
         mean(check, with(3, 2), 4, 2, 2, 1, 6);
         // none comes ahead of none, none ends behind all: one caller, w = 3, 2
         mean(check, with(3), 1, 2, 1, 0, 1);
+    }
+
+    /**
+     * From the rates alone: in the long run as many come from n to n + 1 as end from n + 1 to n, and who
+     * wait, by who come in the same time, is the mean wait.
+     */
+    private static void longRun(Check check) {
+        for (int[] speeds : SPEEDS) {
+            for (int many = 1; many <= 8; many++) {
+                LinePool x = with(speeds);
+                for (int c = 1; c <= 8; c++) {
+                    int r = 1 + (many + c) % 9;
+                    double share = 1;
+                    double waiting = 0;
+                    double coming = many * r;
+                    for (int n = 1; n <= many; n++) {
+                        share *= (double) (many - n + 1) * r / ends(speeds, Math.min(c, n));
+                        waiting += share * Math.max(0, n - c);
+                        coming += share * (many - n) * r;
+                    }
+                    double mean = (double) x.mean(many, r, c, 0) / x.mean(many, r, c, 1);
+                    String call = "mean(" + many + ", " + r + ", " + c + ", ..), " + mean + ", beside ";
+                    double due = waiting / coming;
+                    check.due(call + due, Math.abs(mean - due) <= 1e-9 * due, true);
+                }
+            }
+        }
     }
 
     private static void aboveSize(Check check) {
